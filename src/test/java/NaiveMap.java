@@ -1,13 +1,12 @@
 import java.util.ArrayList;
 import java.util.Arrays;
 import java.util.Comparator;
-import java.util.HashSet;
 import java.util.List;
 import java.util.Set;
 import java.util.regex.Matcher;
 import java.util.regex.Pattern;
 
-/** The document said a second time, as slowly and plainly as can be, with sets of cells: what LabelPlacer is held against. */
+/** The document said a second time, as plainly as can be, cell by cell: what LabelPlacer is held against. */
 final class NaiveMap {
     private static final int NONE = -1, BAD = -2, STATE = -3, FULL = -4;
 
@@ -28,25 +27,7 @@ final class NaiveMap {
         return least <= value && value <= greatest;
     }
 
-    private static int cell(int x, int y) {
-        return (y + 1000) * 10000 + x + 1000;
-    }
-
     // ---- what follows from points and window
-
-    private Set<Integer> windowCells() {
-        return rectangle(wx, wy, ww, wh);
-    }
-
-    private static Set<Integer> rectangle(int left, int bottom, int w, int h) {
-        Set<Integer> cells = new HashSet<>();
-        for (int i = 0; i < w; i++) {
-            for (int j = 0; j < h; j++) {
-                cells.add(cell(left + i, bottom + j));
-            }
-        }
-        return cells;
-    }
 
     private boolean visible(Spot s) {
         return s.x >= wx && s.y >= wy && s.x < wx + ww && s.y < wy + wh;
@@ -68,21 +49,29 @@ final class NaiveMap {
         };
     }
 
-    private static Set<Integer> cells(Spot s, int side) {
-        return rectangle(left(s, side), bottom(s, side), s.w, s.h);
+    private static boolean covers(Spot s, int side, int x, int y) {
+        int left = left(s, side);
+        int bottom = bottom(s, side);
+        return left <= x && x < left + s.w && bottom <= y && y < bottom + s.h;
     }
 
     private boolean isPlace(Spot s, int side) {
         if (!visible(s) || (s.sides & (1 << side)) == 0) {
             return false;
         }
-        Set<Integer> covered = cells(s, side);
         for (Spot other : spots) {
-            if (covered.contains(cell(other.x, other.y))) {
+            if (covers(s, side, other.x, other.y)) {
                 return false;
             }
         }
-        return windowCells().containsAll(covered);
+        for (int x = left(s, side); x < left(s, side) + s.w; x++) {
+            for (int y = bottom(s, side); y < bottom(s, side) + s.h; y++) {
+                if (!within(x, wx, wx + ww - 1) || !within(y, wy, wy + wh - 1)) {
+                    return false;
+                }
+            }
+        }
+        return true;
     }
 
     private List<Label> placesOf(Spot s) {
@@ -107,9 +96,16 @@ final class NaiveMap {
         if (a.spot == b.spot) {
             return false;
         }
-        Set<Integer> common = cells(a.spot, a.side);
-        common.retainAll(cells(b.spot, b.side));
-        return !common.isEmpty();
+        int left = left(a.spot, a.side);
+        int bottom = bottom(a.spot, a.side);
+        for (int x = left; x < left + a.spot.w; x++) {
+            for (int y = bottom; y < bottom + a.spot.h; y++) {
+                if (covers(b.spot, b.side, x, y)) {
+                    return true;
+                }
+            }
+        }
+        return false;
     }
 
     private List<Label> shown() {
@@ -307,7 +303,7 @@ final class NaiveMap {
             return BAD;
         }
         for (Label label : shown()) {
-            if (cells(label.spot, label.side).contains(cell(x, y))) {
+            if (covers(label.spot, label.side, x, y)) {
                 return spots.indexOf(label.spot);
             }
         }
