@@ -4,6 +4,7 @@ public final class LeadersTest {
 
     public static void main(String[] args) {
         leadersInOrder();
+        leadersInEitherOrder();
         leadersAtTheirSlot();
         leadersOfPointsWithoutLabel();
         leadersAreKept();
@@ -33,6 +34,21 @@ public final class LeadersTest {
         leaderIs(x, 3, 0, 9, 30 + 3, 34 - 12 + 3);
         leaderIs(x, 4, NONE, NONE, NONE, NONE);
         Due.is("count(10)", x.count(10), 4);
+    }
+
+    private static void leadersInEitherOrder() {
+        int[][] cells = {{5, 5}, {6, 5}, {7, 5}, {4, 6}};
+        for (int turn = 0; turn < 4; turn++) {
+            LabelPlacer x = new LabelPlacer();
+            for (int i = 0; i < 4; i++) {
+                x.addPoint(cells[(i + turn) % 4][0], cells[(i + turn) % 4][1], 1, 1, 1, 255);
+            }
+            Due.is("leaders()", x.leaders(), 4);
+            int[] due = {3, 0, 1, 2};
+            for (int i = 0; i < 4; i++) {
+                Due.is("turn " + turn + ": leader(" + i + ", 0)", x.leader(i, 0), (due[i] - turn + 4) % 4);
+            }
+        }
     }
 
     private static void leadersAtTheirSlot() {

@@ -4,6 +4,7 @@ public final class NumbersTest {
 
     public static void main(String[] args) {
         countAnswers();
+        countOfFirst();
         countOfPushes();
         countRanges();
         digestOfANewObject();
@@ -40,6 +41,13 @@ public final class NumbersTest {
         countsAre(x, 5, 4, 6, 4, 3, 19, 0, 0, 60, 40, 1, 2, 0);
         x.setWindow(2, 3, 45, 36);
         countsAre(x, 5, 3, 5, 4, 2, 11, 2, 3, 45, 36, 1, 2, 0);
+    }
+
+    private static void countOfFirst() {
+        LabelPlacer x = example();
+        x.show(0, 1);
+        Due.is("count(4)", x.count(4), 1);
+        Due.is("count(5)", x.count(5), 4);
     }
 
     private static void countOfPushes() {

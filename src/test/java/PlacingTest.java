@@ -115,6 +115,12 @@ public final class PlacingTest {
         x.show(1, 3);
         Due.is("one label in the way", x.improve(), 1);
         sidesAre("moved", x, 1, 3, 6);
+        LabelPlacer y = new LabelPlacer();
+        y.addPoint(20, 20, 4, 1, 9, 1 + 128);
+        y.addPoint(22, 20, 4, 1, 1, 128);
+        y.show(0, 7);
+        Due.is("side 0 is free for it", y.improve(), 1);
+        sidesAre("moved to side 0", y, 0, 7);
     }
 
     private static void improveInOrder() {
@@ -249,6 +255,17 @@ public final class PlacingTest {
         Due.is("all together", x.greatest(), 17);
         x.addPoint(120, 20, 3, 1, 9, 255);
         Due.is("a point without places adds nothing", x.greatest(), 17);
+        LabelPlacer y = new LabelPlacer();
+        y.addPoint(20, 20, 4, 1, 7, 128);
+        y.addPoint(22, 20, 4, 1, 5, 128);
+        y.addPoint(24, 20, 4, 1, 4, 64 + 128);
+        Due.is("without side 0", y.greatest(), 11);
+        y.setPoint(2, 5, 128);
+        Due.is("a chain of three", y.greatest(), 11);
+        y.setPoint(1, 4, 9);
+        Due.is("its ends", y.greatest(), 11);
+        y.setPoint(2, 4, 1);
+        Due.is("its middle", y.greatest(), 9);
     }
 
     private static void greatestLimit() {

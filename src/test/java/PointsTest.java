@@ -9,6 +9,7 @@ public final class PointsTest {
         addPointOrderOfErrors();
         addPointTakesPlaces();
         removePointMovesNumbers();
+        removePointFreesPlaces();
         removePointRanges();
         setPointAnswers();
         setPointHides();
@@ -117,6 +118,26 @@ public final class PointsTest {
         Due.is("removePoint(1) again", x.removePoint(1), 1);
         Due.is("removePoint(0)", x.removePoint(0), 0);
         Due.is("no labels are left", x.count(4), 0);
+    }
+
+    private static void removePointFreesPlaces() {
+        LabelPlacer x = new LabelPlacer();
+        x.addPoint(12, 11, 1, 1, 9, 255);
+        x.addPoint(10, 10, 4, 2, 3, 1);
+        x.addPoint(120, 10, 4, 2, 4, 255);
+        Due.is("a point in its label", x.point(1, 8), 0);
+        Due.is("removePoint(0)", x.removePoint(0), 2);
+        Due.is("its place comes back", x.point(0, 8), 1);
+        Due.is("places follow the numbers", x.place(1, 0, 1), 121);
+        Due.is("what is gone has no places", x.count(2), 1);
+        Due.is("nor can it push", x.count(12), 1);
+        Due.is("nor get a label", x.fill(), 1);
+        Due.is("labels follow the numbers", x.labelAt(11, 11), 0);
+        Due.is("the sum of priorities", x.count(5), 3);
+        x.removePoint(0);
+        Due.is("no label is left", x.labelAt(11, 11), LabelPlacer.NONE);
+        Due.is("the greatest sum", x.greatest(), 0);
+        Due.is("no leader", x.leaders(), 0);
     }
 
     private static void removePointRanges() {

@@ -51,6 +51,12 @@ public final class TextTest {
         faultIs("panx 1 2", 0);
         faultIs("panX 1 2", 3);
         faultIs("labels", 0);
+        faultIs("panz 1 2", 0);
+        faultIs("pana 1 2", 0);
+        faultIs("zide", 0);
+        faultIs("fan 1 2", 0);
+        faultIs("hida", 0);
+        faultIs("paint 1 1 1 1 1", 0);
         faultIs(" labellabel", 1);
         faultIs("pan", 3);
         faultIs("pan ", 4);
