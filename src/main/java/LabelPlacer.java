@@ -248,10 +248,6 @@ public final class LabelPlacer {
             return FAULTS_FROM - fault;
         }
         text.length = 0;
-        return carryOut();
-    }
-
-    private int carryOut() {
         int[] n = command.numbers;
         switch (command.kind) {
             case Command.POINT:
@@ -261,11 +257,11 @@ public final class LabelPlacer {
             case Command.PAN:
                 return pan(n[0], n[1]);
             case Command.LABEL:
-                return fill();
+                return labels.addFree();
             case Command.IMPROVE:
-                return improve();
+                return labels.makeRoom();
             default:
-                return hideAll();
+                return labels.hideEach();
         }
     }
 
@@ -467,6 +463,9 @@ public final class LabelPlacer {
         private final Window window;
         private final int[] left;
         private final int[] bottom;
+        // The column and the row just behind the label.
+        private final int[] right;
+        private final int[] top;
         private final boolean[] good;
 
         Places(Points points, Window window) {
@@ -474,6 +473,8 @@ public final class LabelPlacer {
             this.window = window;
             left = new int[MAX_PLACES];
             bottom = new int[MAX_PLACES];
+            right = new int[MAX_PLACES];
+            top = new int[MAX_PLACES];
             good = new boolean[MAX_PLACES];
         }
 
@@ -483,6 +484,8 @@ public final class LabelPlacer {
                     int k = p * SIDES + side;
                     left[k] = findLeft(p, side);
                     bottom[k] = findBottom(p, side);
+                    right[k] = left[k] + points.get(p, Points.WIDTH);
+                    top[k] = bottom[k] + points.get(p, Points.HEIGHT);
                     good[k] = isGood(p, side);
                 }
             }
@@ -552,10 +555,8 @@ public final class LabelPlacer {
         }
 
         boolean covers(int p, int side, int x, int y) {
-            int right = x - leftOf(p, side);
-            int up = y - bottomOf(p, side);
-            return right >= 0 && right < points.get(p, Points.WIDTH)
-                    && up >= 0 && up < points.get(p, Points.HEIGHT);
+            int k = p * SIDES + side;
+            return x >= left[k] && x < right[k] && y >= bottom[k] && y < top[k];
         }
 
         int manyOf(int p) {
@@ -576,15 +577,16 @@ public final class LabelPlacer {
             return found;
         }
 
-        /** Whether both are places, of different points, that clash. */
+        /** Whether both are places, of different points, that clash; with the side NONE they do not. */
         boolean doClash(int p, int side, int other, int its) {
+            if (p == other || side == NONE || its == NONE) {
+                return false;
+            }
             int a = p * SIDES + side;
             int b = other * SIDES + its;
-            return p != other && good[a] && good[b]
-                    && left[a] < left[b] + points.get(other, Points.WIDTH)
-                    && left[b] < left[a] + points.get(p, Points.WIDTH)
-                    && bottom[a] < bottom[b] + points.get(other, Points.HEIGHT)
-                    && bottom[b] < bottom[a] + points.get(p, Points.HEIGHT);
+            return good[a] && good[b]
+                    && left[a] < right[b] && left[b] < right[a]
+                    && bottom[a] < top[b] && bottom[b] < top[a];
         }
 
         int clashesOf(int p, int side) {
@@ -710,15 +712,10 @@ public final class LabelPlacer {
             return !isShown(p) && places.isVisible(p);
         }
 
-        /** Whether the label of another point is shown where it clashes with a place. */
-        private boolean isInTheWay(int other, int p, int side) {
-            return isShown(other) && places.doClash(p, side, other, shown[other]);
-        }
-
         int clashing(int p, int side) {
             int found = 0;
             for (int other = 0; other < points.many; other++) {
-                if (isInTheWay(other, p, side)) {
+                if (places.doClash(p, side, other, shown[other])) {
                     found++;
                 }
             }
@@ -764,7 +761,9 @@ public final class LabelPlacer {
 
         private boolean showByMoving(int p) {
             for (int side = 0; side < SIDES; side++) {
-                if (places.isPlace(p, side) && clearByMoving(p, side)) {
+                boolean cleared = isFree(p, side)
+                        || (clashing(p, side) == 1 && moveAside(firstClashing(p, side), p, side));
+                if (cleared) {
                     put(p, side);
                     return true;
                 }
@@ -772,22 +771,18 @@ public final class LabelPlacer {
             return false;
         }
 
-        /** Makes sure that no label clashes with a place, if moving at most one label does it. */
-        private boolean clearByMoving(int p, int side) {
-            int inTheWay = NONE;
+        private int firstClashing(int p, int side) {
             for (int other = 0; other < points.many; other++) {
-                if (isInTheWay(other, p, side)) {
-                    if (inTheWay != NONE) {
-                        return false;
-                    }
-                    inTheWay = other;
+                if (places.doClash(p, side, other, shown[other])) {
+                    return other;
                 }
             }
-            return inTheWay == NONE || moveAside(inTheWay, p, side);
+            return NONE;
         }
 
+        /** Moves the label that alone clashes with a place to its least side that is free then. */
         private boolean moveAside(int mover, int p, int side) {
-            for (int its = 0; its < SIDES; its++) {
+            for (int its = 0; its < SIDES && mover != NONE; its++) {
                 if (isFree(mover, its) && !places.doClash(p, side, mover, its)) {
                     put(mover, its);
                     return true;
@@ -834,7 +829,8 @@ public final class LabelPlacer {
         private boolean outranksClashing(int p, int side) {
             int priority = points.get(p, Points.PRIORITY);
             for (int other = 0; other < points.many; other++) {
-                if (points.get(other, Points.PRIORITY) >= priority && isInTheWay(other, p, side)) {
+                if (points.get(other, Points.PRIORITY) >= priority
+                        && places.doClash(p, side, other, shown[other])) {
                     return false;
                 }
             }
@@ -843,7 +839,7 @@ public final class LabelPlacer {
 
         private void hideClashing(int p, int side) {
             for (int other = 0; other < points.many; other++) {
-                if (isInTheWay(other, p, side)) {
+                if (places.doClash(p, side, other, shown[other])) {
                     hide(other);
                 }
             }
