@@ -7,6 +7,7 @@ public final class FullMapTest {
 
     public static void main(String[] args) {
         twentyApart();
+        twentyWithoutPlaces();
         twentyInACrowd();
         strangeArguments(new LabelPlacer());
         strangeArguments(crowd());
@@ -38,6 +39,20 @@ public final class FullMapTest {
         Due.is("pan(11, 11)", x.pan(11, 11), 12);
         Due.is("removePoint(0)", x.removePoint(0), 19);
         Due.is("addPoint", x.addPoint(0, 0, 1, 1, 1, 255), 19);
+    }
+
+    private static void twentyWithoutPlaces() {
+        LabelPlacer x = new LabelPlacer();
+        for (int i = 0; i < 20; i++) {
+            x.addPoint(59, i, 4, 2, 5, 1);
+        }
+        Due.is("places", x.count(2), 0);
+        Due.is("fill()", x.fill(), 0);
+        Due.is("improve()", x.improve(), 0);
+        Due.is("push()", x.push(), 0);
+        Due.is("greatest()", x.greatest(), 0);
+        Due.is("pan(0, 0)", x.pan(0, 0), 0);
+        Due.is("leaders()", x.leaders(), 20);
     }
 
     private static LabelPlacer crowd() {
