@@ -10,6 +10,7 @@ public final class FullMapTest {
         twentyApart();
         twentyWithoutPlaces();
         twentyInACrowd();
+        allCalls();
         strangeArguments(LabelPlacer::new);
         strangeArguments(FullMapTest::crowd);
         Due.end();
@@ -80,6 +81,19 @@ public final class FullMapTest {
         Due.is("a row too few for the slots", x.leaders(), LabelPlacer.STATE);
         x.setWindow(0, 0, 60, 39);
         Due.is("rows enough", x.leaders(), 20);
+    }
+
+    /** "An object is used for at most 512 calls after it has been made": the last one is answered as the first. */
+    private static void allCalls() {
+        LabelPlacer x = Scene.apart(20, 5);
+        long before = x.digest();
+        // 1 call for the window, 20 for the points and 1 for the digest have been made.
+        for (int made = 22; made < 510; made += 2) {
+            Due.is("fill()", x.fill(), 20);
+            Due.is("hideAll()", x.hideAll(), 20);
+        }
+        Due.is("call 511: leader(0, 0)", x.leader(0, 0), LabelPlacer.NONE);
+        Due.is("call 512: digest()", x.digest(), before);
     }
 
     private static int clashes(LabelPlacer x) {

@@ -26,6 +26,7 @@ public final class MapEdgesTest {
         clashOfOneCell();
         noClashOfOnePoint();
         noLabelAtFirst();
+        labelsAreAlwaysAtPlaces();
         orderOfPoints();
         addPointTakesLabels();
         removePointTakesItsLabelAlone();
@@ -333,6 +334,49 @@ public final class MapEdgesTest {
             Due.is("shown", x.point(0, 7), side);
             Due.is("one label", x.count(4), 1);
         }
+    }
+
+    /** "The labels that are shown are always at places that do not clash." */
+    private static void labelsAreAlwaysAtPlaces() {
+        LabelPlacer x = new LabelPlacer();
+        for (int i = 0; i < 6; i++) {
+            x.addPoint(20 + 2 * i, 20 + i % 3, 4 + i, 1 + i % 3, 1 + i, 255);
+        }
+        x.fill();
+        labelsAreSound("fill()", x);
+        x.setPoint(0, 2, 20);
+        labelsAreSound("setPoint() of a width", x);
+        x.setPoint(3, 3, 6);
+        labelsAreSound("setPoint() of a height", x);
+        x.improve();
+        labelsAreSound("improve()", x);
+        x.setPoint(2, 5, 1);
+        labelsAreSound("setPoint() of the sides", x);
+        x.push();
+        labelsAreSound("push()", x);
+        x.addPoint(25, 24, 1, 1, 9, 255);
+        labelsAreSound("addPoint()", x);
+        x.pan(15, 15);
+        labelsAreSound("pan()", x);
+        x.setWindow(20, 18, 12, 10);
+        labelsAreSound("setWindow()", x);
+        x.fill();
+        x.removePoint(1);
+        labelsAreSound("removePoint()", x);
+        Due.holds("some are shown", x.count(4) > 0);
+    }
+
+    private static void labelsAreSound(String when, LabelPlacer x) {
+        int shown = 0;
+        for (int p = 0; p < x.count(0); p++) {
+            int side = x.point(p, 7);
+            if (side != NONE) {
+                shown++;
+                Due.is("after " + when + ": the label of " + p + " is at a place", x.place(p, side, 0), 1);
+                Due.is("after " + when + ": the label of " + p + " clashes with", x.place(p, side, 4), 0);
+            }
+        }
+        Due.is("after " + when + ": count(4)", x.count(4), shown);
     }
 
     /** "An order of points is by descending priorities, and by ascending numbers if these are equal." */

@@ -34,6 +34,8 @@ public final class PlacingEdgesTest {
         greatestOfSeven();
         greatestOfPointsWithoutPlaces();
         greatestTogether();
+        greatestWithoutTheFirstSide();
+        greatestOfOneLabelEach();
         greatestOfACrowd();
         Due.end();
     }
@@ -167,6 +169,11 @@ public final class PlacingEdgesTest {
             Due.is("improve() from side " + least + " on", x.improve(), 1);
             sidesAre("from side " + least + " on", x, due, 0);
         }
+        LabelPlacer x = row(5, 255, 20, 22);
+        x.setPoint(1, 5, 128);
+        x.show(0, 7);
+        Due.is("improve() below", x.improve(), 1);
+        sidesAre("the least of all sides", x, 0, 7);
     }
 
     /** Promise 12: "if a place clashes with none, the point simply gets it" */
@@ -459,14 +466,42 @@ public final class PlacingEdgesTest {
         Due.is("whatever is shown", x.greatest(), 19);
     }
 
+    /** The same: only places count, also where side 0 is none. */
+    private static void greatestWithoutTheFirstSide() {
+        LabelPlacer x = row(5, 128, 20, 22);
+        Due.is("one of them below", x.greatest(), 5);
+        x.setPoint(0, 4, 9);
+        Due.is("the greater one", x.greatest(), 9);
+        x.setPoint(0, 5, 64 + 128);
+        Due.is("both, with side 6", x.greatest(), 14);
+    }
+
+    /** The same: each point shows one label at most. */
+    private static void greatestOfOneLabelEach() {
+        Due.is("one point on all sides", row(9, 255, 30).greatest(), 9);
+        LabelPlacer x = row(9, 1 + 128, 20);
+        x.addPoint(26, 20, 5, 3, 5, 32);
+        // Columns 21 to 24 of row 21 or 19 to 22 of row 19, and columns 21 to 25 of rows 19 to 21.
+        Due.is("in the way of both places of the other", x.greatest(), 9);
+        LabelPlacer y = new LabelPlacer();
+        y.addPoint(20, 20, 4, 1, 9, 64 + 128);
+        y.addPoint(22, 23, 5, 6, 5, 8);
+        // It covers columns 17 to 21 of rows 17 to 22, and the point 0 with it.
+        Due.is("a label over a point is no place", y.greatest(), 9);
+        y.removePoint(1);
+        y.addPoint(19, 20, 4, 3, 5, 32 + 16);
+        Due.is("places on the other's cell", y.greatest(), 14);
+    }
+
     /** Six points that leave each other little room: the sum is held against a search through everything. */
     private static void greatestOfACrowd() {
-        for (int turn = 0; turn < 12; turn++) {
+        int[] sets = {15, 195, 240, 170, 85};
+        for (int turn = 0; turn < 40; turn++) {
             LabelPlacer x = new LabelPlacer();
             NaiveMap y = new NaiveMap();
             for (int i = 0; i < 6; i++) {
                 int[] a = {20 + i * (turn % 4), 20 + i * (turn % 3) + i % 2, 3 + turn % 5, 1 + turn % 2, 1 + (i * 5 + turn) % 9,
-                    turn % 2 == 0 ? 15 : 195};
+                    sets[turn % 5]};
                 Due.is("addPoint()", x.addPoint(a[0], a[1], a[2], a[3], a[4], a[5]), y.addPoint(a[0], a[1], a[2], a[3], a[4], a[5]));
             }
             Due.is("turn " + turn, x.greatest(), y.greatest());

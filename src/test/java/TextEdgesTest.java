@@ -12,6 +12,7 @@ public final class TextEdgesTest {
         clearOfTheText();
         textOfEightyBytes();
         sixCommands();
+        wordsLetterByLetter();
         wordsAreTheLongest();
         numbersOfThreeDigits();
         numbersAreTheLongest();
@@ -136,6 +137,19 @@ public final class TextEdgesTest {
         }
         faultIs("LABEL", 0);
         faultIs("Label", 0);
+    }
+
+    /** The same: each letter of a word matters. */
+    private static void wordsLetterByLetter() {
+        for (String command : COMMANDS) {
+            int end = command.indexOf(' ') < 0 ? command.length() : command.indexOf(' ');
+            for (int i = 0; i < end; i++) {
+                faultIs(command.substring(0, i) + 'q' + command.substring(i + 1), 0);
+                faultIs(command.substring(0, i) + command.substring(i + 1), 0);
+                int big = command.charAt(i) - 'a' + 'A';
+                faultIs(command.substring(0, i) + (char) big + command.substring(i + 1), 0);
+            }
+        }
     }
 
     /** "The words are read as the longest possible sequences of small letters" */
