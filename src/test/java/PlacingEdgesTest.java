@@ -445,6 +445,8 @@ public final class PlacingEdgesTest {
         Due.is("two of them without places", x.greatest(), 54);
         x.setPoint(8, 5, 8);
         Due.is("one of them without", x.greatest(), STATE);
+        x.setWindow(60, 40, 40, 40);
+        Due.is("the last four of twenty", x.greatest(), 36);
     }
 
     /** Promise 16: "the greatest sum of priorities of labels that can be shown together" */

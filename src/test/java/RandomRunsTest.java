@@ -13,6 +13,8 @@ public final class RandomRunsTest {
 
     private final Random random;
     private final int crowd;
+    /** Whether the run is at the far ends of the map. */
+    private final boolean far;
     private final LabelPlacer real = new LabelPlacer();
     private final NaiveMap naive = new NaiveMap();
     private int made = 0;
@@ -20,6 +22,7 @@ public final class RandomRunsTest {
     private RandomRunsTest(int seed) {
         random = new Random(seed);
         crowd = seed % 3 == 0 ? 12 : seed % 3 == 1 ? 25 : 60;
+        far = seed % 4 == 0;
     }
 
     public static void main(String[] args) {
@@ -30,6 +33,9 @@ public final class RandomRunsTest {
     }
 
     private void goThrough(int seed) {
+        if (far) {
+            setWindow("seed " + seed + ", at first: ");
+        }
         for (int i = 0; made < CALLS && Due.wrongSoFar() < 20; i++) {
             String at = "seed " + seed + ", call " + i + ": ";
             oneCall(at);
@@ -48,6 +54,11 @@ public final class RandomRunsTest {
 
     private int one(int least, int greatest) {
         return random.nextInt(80) == 0 ? STRANGE[random.nextInt(STRANGE.length)] : least + random.nextInt(greatest - least + 1);
+    }
+
+    private int aCoordinate() {
+        int c = one(0, crowd);
+        return far ? 199 - c : c;
     }
 
     private int aPoint() {
@@ -117,7 +128,7 @@ public final class RandomRunsTest {
     }
 
     private void addPoint(String at) {
-        int[] a = {one(0, crowd), one(0, crowd), one(1, 6), one(1, 4), one(1, 9), aSideSet()};
+        int[] a = {aCoordinate(), aCoordinate(), one(1, 6), one(1, 4), one(1, 9), aSideSet()};
         if (random.nextInt(10) == 0) {
             a[2] = one(1, 20);
             a[3] = one(1, 6);
@@ -136,6 +147,10 @@ public final class RandomRunsTest {
 
     private void setWindow(String at) {
         int[] a = {one(0, 8), one(0, 8), one(10, 10 + crowd), one(10, 10 + crowd)};
+        if (far) {
+            a[0] = 200 - a[2] - a[0];
+            a[1] = 200 - a[3] - a[1];
+        }
         Due.is(at + "setWindow", real().setWindow(a[0], a[1], a[2], a[3]), naive.setWindow(a[0], a[1], a[2], a[3]));
     }
 
@@ -174,8 +189,8 @@ public final class RandomRunsTest {
         int type = one(-1, 128);
         Due.is(at + "type", real().type(type), naive.type(type));
         for (int i = 0; i < 8; i++) {
-            int x = one(0, crowd);
-            int y = one(0, crowd);
+            int x = aCoordinate();
+            int y = aCoordinate();
             Due.is(at + "labelAt(" + x + ", " + y + ")", real().labelAt(x, y), naive.labelAt(x, y));
         }
     }
