@@ -9,6 +9,7 @@ public final class PlacingEdgesTest {
         fillLeastSide();
         fillBesideLabels();
         fillWithoutPlaces();
+        fillMovesNothing();
         improveOfTwentyAndNone();
         improveJustOneLabel();
         improveToAnotherPlace();
@@ -16,6 +17,8 @@ public final class PlacingEdgesTest {
         improveWhereNoneClashes();
         improveEndsWithTheFirst();
         improveInTheirOrder();
+        improveGoesThroughOnce();
+        improveMovesOneLabel();
         improveOfEqualsAndLower();
         pushOfTwentyAndNone();
         pushOfLowerOnes();
@@ -36,6 +39,7 @@ public final class PlacingEdgesTest {
         greatestTogether();
         greatestWithoutTheFirstSide();
         greatestOfOneLabelEach();
+        greatestWhateverIsShown();
         greatestOfACrowd();
         Due.end();
     }
@@ -99,6 +103,16 @@ public final class PlacingEdgesTest {
         LabelPlacer x = row(5, 1, 59, 58, 55);
         Due.is("two would leave the window", x.fill(), 1);
         sidesAre("the third", x, NONE, NONE, 0);
+    }
+
+    /** The same: labels that are in the way neither move nor disappear, whatever their priorities. */
+    private static void fillMovesNothing() {
+        LabelPlacer x = row(5, 1, 20, 22);
+        x.setPoint(0, 5, 255);
+        x.setPoint(1, 4, 9);
+        x.show(0, 0);
+        Due.is("fill()", x.fill(), 0);
+        sidesAre("the label stays", x, 0, NONE);
     }
 
     /** Promise 12: "Returns how many points got a label." */
@@ -183,6 +197,12 @@ public final class PlacingEdgesTest {
         x.show(0, 0);
         Due.is("beside a label that could move", x.improve(), 1);
         sidesAre("which stays", x, 0, 0);
+        LabelPlacer y = row(5, 255, 17, 22);
+        y.setPoint(1, 5, 1 + 2);
+        y.show(0, 0);
+        // Row 21: columns 18 to 21, where side 1 of point 1 would be, and 23 to 26.
+        Due.is("before a place for which a label could move", y.improve(), 1);
+        sidesAre("which stays too", y, 0, 0);
     }
 
     /** Promise 12: "The first place that succeeds ends it for this point." */
@@ -209,6 +229,37 @@ public final class PlacingEdgesTest {
         x.setPoint(1, 4, 6);
         Due.is("a greater one", x.improve(), 1);
         sidesAre("a greater one", x, NONE, 0, NONE);
+    }
+
+    /** The same: once, also if a label that moved has made room for one that had none before. */
+    private static void improveGoesThroughOnce() {
+        LabelPlacer x = new LabelPlacer();
+        x.addPoint(20, 20, 2, 2, 5, 255);
+        x.addPoint(26, 20, 2, 1, 5, 255);
+        x.addPoint(23, 20, 4, 1, 6, 64);
+        x.addPoint(20, 23, 2, 1, 5, 4);
+        x.show(0, 0);
+        x.show(1, 1);
+        // Row 21: columns 21 and 22, and 24 and 25; point 2 would cover 22 to 25. Row 22: points 0 and 3 in 21 and 22.
+        Due.is("two in the way of the first, one in the way of the second", x.improve(), 1);
+        sidesAre("the second got its label", x, 1, 1, NONE, 2);
+        Due.is("now one is in the way of the first", x.improve(), 1);
+        sidesAre("the first got its label", x, 1, 0, 6, 2);
+    }
+
+    /** Promise 12: "the label moves": no other one moves for it, and none disappears. */
+    private static void improveMovesOneLabel() {
+        LabelPlacer x = row(5, 1, 20, 22);
+        x.setPoint(1, 4, 9);
+        x.show(0, 0);
+        Due.is("a lower one that has no other place", x.improve(), 0);
+        sidesAre("stays", x, 0, NONE);
+        x.setPoint(0, 5, 1 + 128);
+        x.addPoint(19, 18, 1, 1, 5, 255);
+        x.show(2, 0);
+        // Row 19: point 2 covers 20, point 0 on side 7 would cover 19 to 22.
+        Due.is("one whose other place another one would have to leave", x.improve(), 0);
+        sidesAre("both stay", x, 0, NONE, 0);
     }
 
     /** Priorities do not matter for who moves. */
@@ -493,6 +544,22 @@ public final class PlacingEdgesTest {
         y.removePoint(1);
         y.addPoint(19, 20, 4, 3, 5, 32 + 16);
         Due.is("places on the other's cell", y.greatest(), 14);
+    }
+
+    /** The same: "can be shown", so what is shown at present does not matter. */
+    private static void greatestWhateverIsShown() {
+        LabelPlacer x = row(3, 1, 20, 22);
+        x.setPoint(1, 4, 5);
+        x.show(0, 0);
+        Due.is("a lower label is in the way", x.greatest(), 5);
+        x.setPoint(0, 5, 1 + 2);
+        Due.is("it has another place", x.greatest(), 8);
+        sidesAre("it stays", x, 0, NONE);
+        x.show(0, NONE);
+        Due.is("none is shown", x.greatest(), 8);
+        x.show(0, 1);
+        x.show(1, 0);
+        Due.is("both are shown", x.greatest(), 8);
     }
 
     /** Six points that leave each other little room: the sum is held against a search through everything. */

@@ -1,3 +1,6 @@
+import java.util.function.Supplier;
+import java.util.function.ToIntFunction;
+
 /** The boundary cases of the text and of promises 19 to 21, sentence by sentence: type, clear, run. */
 public final class TextEdgesTest {
     private static final int NONE = LabelPlacer.NONE, BAD = LabelPlacer.BAD, STATE = LabelPlacer.STATE,
@@ -34,6 +37,7 @@ public final class TextEdgesTest {
         runStandsForSetWindow();
         runStandsForPan();
         runStandsForTheOthers();
+        runIsLikeTheCall();
         runEmptiesTheText();
         runLeavesTheText();
         Due.end();
@@ -474,6 +478,43 @@ public final class TextEdgesTest {
         Due.is("hide", x.run(), 2);
         Due.is("none", x.count(4), 0);
         Due.is("hidden", x.point(0, 7), NONE);
+    }
+
+    /** The same on a map where fill(), improve() and push() do different things. */
+    private static void runIsLikeTheCall() {
+        Supplier<LabelPlacer> map = () -> {
+            LabelPlacer x = new LabelPlacer();
+            x.addPoint(20, 20, 4, 1, 5, 1 + 2);
+            x.addPoint(22, 20, 4, 1, 9, 1 + 4);
+            x.addPoint(40, 20, 4, 1, 5, 255);
+            x.addPoint(42, 20, 4, 1, 9, 1);
+            x.addPoint(140, 20, 4, 1, 9, 255);
+            x.show(0, 0);
+            x.show(2, 0);
+            x.leaders();
+            return x;
+        };
+        runIs(map, "point 50 30 3 2 4", x -> x.addPoint(50, 30, 3, 2, 4, 255));
+        runIs(map, "point 21 21 3 2 4", x -> x.addPoint(21, 21, 3, 2, 4, 255));
+        runIs(map, "window 21 1 20 30", x -> x.setWindow(21, 1, 20, 30));
+        runIs(map, "pan 21 1", x -> x.pan(21, 1));
+        runIs(map, "label", LabelPlacer::fill);
+        runIs(map, "improve", LabelPlacer::improve);
+        runIs(map, "hide", LabelPlacer::hideAll);
+        LabelPlacer x = map.get();
+        Due.is("fill()", x.fill(), 1);
+        Due.is("its side", x.point(1, 7), 2);
+        LabelPlacer y = map.get();
+        Due.is("improve()", y.improve(), 2);
+        Due.is("its side", y.point(1, 7), 0);
+    }
+
+    private static void runIs(Supplier<LabelPlacer> map, String command, ToIntFunction<LabelPlacer> call) {
+        LabelPlacer x = map.get();
+        LabelPlacer y = map.get();
+        Due.type(x, command);
+        Due.is("run() of '" + command + "'", x.run(), call.applyAsInt(y));
+        Due.is("digest() after '" + command + "'", x.digest(), y.digest());
     }
 
     /** Promise 21: "empties the text, whatever the command returns" */

@@ -15,6 +15,8 @@ public final class WindowEdgesTest {
         panKeepsTheSize();
         panStays();
         panFillsTheOthers();
+        panFillsInTheirOrder();
+        panMovesNoLabel();
         panOfNothing();
         panOfTwenty();
         Due.end();
@@ -187,6 +189,29 @@ public final class WindowEdgesTest {
         Due.is("a lower one that stays is not in their order", x.point(0, 7), 0);
         Due.is("the others come after it", x.point(1, 7), 7);
         Due.is("and after that", x.point(2, 7), 0);
+    }
+
+    /** The same: those that lost their label come in their order, not before those that had none. */
+    private static void panFillsInTheirOrder() {
+        LabelPlacer x = new LabelPlacer();
+        x.addPoint(30, 20, 4, 1, 3, 1 + 2);
+        x.addPoint(32, 20, 4, 1, 5, 1);
+        x.show(0, 1);
+        // Row 21: columns 26 to 29, or 31 to 34, and 33 to 36.
+        Due.is("column 26 goes", x.pan(27, 0), 0);
+        Due.is("the more important one, which had none", x.point(1, 7), 0);
+        Due.is("the one that lost its label", x.point(0, 7), NONE);
+    }
+
+    /** The same: "as by fill()", so no label moves or disappears to make room. */
+    private static void panMovesNoLabel() {
+        LabelPlacer x = new LabelPlacer();
+        x.addPoint(30, 20, 4, 1, 3, 255);
+        x.addPoint(32, 20, 4, 1, 9, 1);
+        x.show(0, 0);
+        Due.is("pan(1, 0)", x.pan(1, 0), 1);
+        Due.is("the lower one stays", x.point(0, 7), 0);
+        Due.is("the more important one gets none", x.point(1, 7), NONE);
     }
 
     private static void panOfNothing() {
