@@ -8,6 +8,8 @@ import java.nio.file.Path;
 import java.util.Arrays;
 import java.util.Set;
 import java.util.TreeSet;
+import java.util.regex.Matcher;
+import java.util.regex.Pattern;
 import java.util.stream.Collectors;
 
 /** The document's public face, and those rules of LANGUAGE.md that can be looked up; the argument is the project's folder. */
@@ -20,6 +22,10 @@ public final class FaceTest {
             "int type(int)", "int clear()", "int run()", "int count(int)", "long digest()"));
     private static final String[] RULED_OUT = {"throw", "throws", "try", "catch", "finally", "synchronized", "assert",
         "native", "volatile", "transient", "\\w+Exact", "System", "Object", "Runtime", "Thread", "random"};
+
+    /** Its indentation, its result (none for a constructor), and its name. */
+    private static final Pattern METHOD = Pattern.compile(
+            "( {4}| {8})(?:(?:public|private|static) )*((?:int|long|boolean|void) )?(\\w+)\\(.*\\) \\{");
 
     public static void main(String[] args) throws IOException {
         constants();
@@ -77,11 +83,21 @@ public final class FaceTest {
             for (Method m : c.getDeclaredMethods()) {
                 Due.holds(c.getName() + "." + m.getName() + " has at most seven parameters", m.getParameterCount() <= 7);
             }
-            for (Field f : c.getDeclaredFields()) {
-                Due.holds(c.getName() + "." + f.getName() + " is final if static",
-                        !Modifier.isStatic(f.getModifiers()) || Modifier.isFinal(f.getModifiers()));
+            fields(c);
+        }
+        fields(LabelPlacer.class);
+    }
+
+    private static void fields(Class<?> c) {
+        int own = 0;
+        for (Field f : c.getDeclaredFields()) {
+            Due.holds(c.getName() + "." + f.getName() + " is final if static",
+                    !Modifier.isStatic(f.getModifiers()) || Modifier.isFinal(f.getModifiers()));
+            if (!Modifier.isStatic(f.getModifiers())) {
+                own++;
             }
         }
+        Due.holds(c.getName() + " has at most twenty fields beside its constants", own <= 20);
     }
 
     private static void source(String source) {
@@ -94,5 +110,25 @@ public final class FaceTest {
         }
         Due.holds("no import but Arrays", code.replace("import java.util.Arrays;", "").indexOf("import ") < 0);
         Due.holds("no package", !code.contains("package "));
+        methods(code.split("\n"));
+    }
+
+    /** Methods are short, and no method makes an object: only constructors do, so that a run stays in its room. */
+    private static void methods(String[] lines) {
+        int found = 0;
+        for (int i = 0; i < lines.length; i++) {
+            Matcher m = METHOD.matcher(lines[i]);
+            if (m.matches()) {
+                int end = i;
+                while (end < lines.length && !lines[end].equals(m.group(1) + "}")) {
+                    Due.holds(m.group(3) + " makes no object: " + lines[end].trim(),
+                            m.group(2) == null || !lines[end].matches(".*\\b(new|clone|copyOf\\w*)\\b.*"));
+                    end++;
+                }
+                Due.holds(m.group(3) + " has at most sixty lines", end - i < 60);
+                found++;
+            }
+        }
+        Due.holds("methods were found: " + found, found >= 22);
     }
 }
