@@ -15,6 +15,7 @@ public final class LeaderEdgesTest {
         bendsInTheRowOfTheSlot();
         margin();
         keptUntilTheNext();
+        keptInAnotherWindow();
         keptThroughErrors();
         keptByNumber();
         noneAreKeptToo();
@@ -193,6 +194,18 @@ public final class LeaderEdgesTest {
         }
         Due.is("the next", x.leaders(), 0);
         leaderIs("after the next", x, 0, NONE, NONE, NONE, NONE);
+    }
+
+    /** The same: slot, bend and margin are those of the window in which they were found. */
+    private static void keptInAnotherWindow() {
+        int[][] windows = {{0, 0, 100, 100}, {10, 10, 60, 40}, {100, 100, 10, 10}};
+        for (int[] w : windows) {
+            LabelPlacer x = new LabelPlacer();
+            x.addPoint(10, 10, 1, 1, 1, 1);
+            x.leaders();
+            x.setWindow(w[0], w[1], w[2], w[3]);
+            leaderIs("in the window from " + w[0] + ", " + w[1], x, 0, 0, 39, 60, 61 - 10 + 29);
+        }
     }
 
     /** The same: a call of leaders() that returns an error keeps them. */

@@ -1,3 +1,5 @@
+import java.util.Random;
+
 /** The boundary cases of promises 11 to 16, sentence by sentence: fill, improve, push, show, hideAll, greatest. */
 public final class PlacingEdgesTest {
     private static final int NONE = LabelPlacer.NONE, BAD = LabelPlacer.BAD, STATE = LabelPlacer.STATE;
@@ -41,6 +43,7 @@ public final class PlacingEdgesTest {
         greatestOfOneLabelEach();
         greatestWhateverIsShown();
         greatestOfACrowd();
+        greatestOfManyCrowds();
         Due.end();
     }
 
@@ -575,5 +578,27 @@ public final class PlacingEdgesTest {
             }
             Due.is("turn " + turn, x.greatest(), y.greatest());
         }
+    }
+
+    /** The same with many maps of few sides, in most of which not all labels can be shown together. */
+    private static void greatestOfManyCrowds() {
+        Random dice = new Random(16);
+        int notAll = 0;
+        for (int turn = 0; turn < 400; turn++) {
+            LabelPlacer x = new LabelPlacer();
+            NaiveMap y = new NaiveMap();
+            int sum = 0;
+            while (x.count(0) < 6) {
+                int[] a = {20 + dice.nextInt(6), 20 + dice.nextInt(5), 2 + dice.nextInt(6), 1 + dice.nextInt(3),
+                    1 + dice.nextInt(9), 1 << dice.nextInt(8) | 1 << dice.nextInt(8) | 1 << dice.nextInt(8)};
+                int number = x.addPoint(a[0], a[1], a[2], a[3], a[4], a[5]);
+                Due.is("addPoint()", number, y.addPoint(a[0], a[1], a[2], a[3], a[4], a[5]));
+                sum += number < 0 ? 0 : a[4];
+            }
+            int greatest = x.greatest();
+            Due.is("many crowds, turn " + turn, greatest, y.greatest());
+            notAll += greatest < sum ? 1 : 0;
+        }
+        Due.holds("not all can be shown in most of them: " + notAll, notAll > 200);
     }
 }
